@@ -109,16 +109,20 @@ public final class UntilHeConfesses {
         if (n < 1 || n > NIGHTS_AT_ONCE || n > LAST_NIGHT - house.stage.night) {
             return NONE;
         }
-        int shown = 0;
-        for (int k = 0; k < n; k++) {
-            shown += play.nightByHand();
-        }
-        return shown;
+        return play.nightsByHand(n);
     }
 
     public int played(int text) {
         Text script = house.textOf(text);
-        return script == null ? OTHER : play.playScript(script);
+        if (script == null) {
+            return OTHER;
+        }
+        for (int k = 0; k < script.clauses; k++) {
+            if (!play.playClause(script, k)) {
+                return k;
+            }
+        }
+        return NONE;
     }
 
     public int seasons(int seed, int n) {
@@ -550,20 +554,19 @@ public final class UntilHeConfesses {
     /** A TEXT that was read without a FAULT; it never changes, so houses can share it. */
     private static final class Text {
         final int[] code;
-        final int[] lawFrom;
-        final int[] lawTill;
+        final int[] lawFrom = new int[3];
+        final int[] lawTill = new int[3];
+        final int clauses;
         final int[] kinds;
         final int[] firsts;
         final int[] seconds;
 
         Text(int codeSize, int clauses) {
             code = new int[codeSize < 0 ? 0 : codeSize];
-            lawFrom = new int[3];
-            lawTill = new int[3];
-            int many = clauses < 0 ? 0 : clauses;
-            kinds = new int[many];
-            firsts = new int[many];
-            seconds = new int[many];
+            this.clauses = clauses < 0 ? 0 : clauses;
+            kinds = new int[this.clauses];
+            firsts = new int[this.clauses];
+            seconds = new int[this.clauses];
         }
 
         boolean hasLaw(int law) {
@@ -571,7 +574,7 @@ public final class UntilHeConfesses {
         }
     }
 
-    /** The bytes that were fed, and the TOKEN that is looked at. */
+    /** The bytes that were fed, and the TOKENS in them. */
     private static final class Tape {
         static final int ROOM = 300;
 
@@ -612,10 +615,11 @@ public final class UntilHeConfesses {
 
         final int[] bytes = new int[ROOM];
         int size;
-        int at;
-        int start;
-        int kind;
-        int value;
+        final int[] kinds = new int[ROOM + 1];
+        final int[] starts = new int[ROOM + 1];
+        final int[] lengths = new int[ROOM + 1];
+        final int[] values = new int[ROOM + 1];
+        int tokens;
 
         Tape() {
             size = 0;
@@ -634,54 +638,71 @@ public final class UntilHeConfesses {
             }
         }
 
-        void toFirstToken() {
-            at = 0;
-            toNextToken();
+        /** Finds all TOKENS, the end as the last one. */
+        void split() {
+            tokens = 0;
+            for (int i = 0; i < size; i++) {
+                if (goesOn(i) && tokens > 0) {
+                    lengths[tokens - 1]++;
+                } else if (!isBlank(bytes[i])) {
+                    startToken(i);
+                }
+            }
+            for (int t = 0; t < tokens; t++) {
+                nameToken(t);
+            }
+            startToken(size);
         }
 
-        void toNextToken() {
-            while (at < size && isBlank(bytes[at])) {
-                at++;
+        private boolean goesOn(int i) {
+            if (i <= 0) {
+                return false;
             }
-            start = at;
-            value = 0;
-            if (at >= size) {
-                kind = END;
-            } else if (isDigit(bytes[at])) {
-                kind = NUMBER;
-                countDigits();
-            } else if (isLetter(bytes[at])) {
-                while (at < size && isLetter(bytes[at])) {
-                    at++;
-                }
-                kind = wordKind();
+            int ahead = bytes[i - 1];
+            return isDigit(bytes[i]) && isDigit(ahead) || isLetter(bytes[i]) && isLetter(ahead);
+        }
+
+        private void startToken(int place) {
+            if (tokens < starts.length) {
+                kinds[tokens] = END;
+                starts[tokens] = place;
+                lengths[tokens] = 1;
+                values[tokens] = 0;
+                tokens++;
+            }
+        }
+
+        private void nameToken(int t) {
+            int sign = bytes[starts[t]];
+            if (isDigit(sign)) {
+                kinds[t] = NUMBER;
+                values[t] = numberAt(starts[t], lengths[t]);
+            } else if (isLetter(sign)) {
+                kinds[t] = wordKind(starts[t], lengths[t]);
             } else {
-                kind = markKind(bytes[at]);
-                at++;
+                kinds[t] = markKind(sign);
             }
         }
 
-        private void countDigits() {
-            while (at < size && isDigit(bytes[at])) {
-                value = value * 10 + bytes[at] - '0';
-                if (value > TOO_GREAT) {
-                    value = TOO_GREAT;
-                }
-                at++;
+        private int numberAt(int start, int length) {
+            int number = 0;
+            for (int i = start; i < start + length && i < size; i++) {
+                number = Math.min(number * 10 + bytes[i] - '0', TOO_GREAT);
             }
+            return number;
         }
 
-        private int wordKind() {
+        private int wordKind(int start, int length) {
             for (int word = 0; word < WORDS; word++) {
-                if (isWord(spelling(word))) {
+                if (isWord(spelling(word), start, length)) {
                     return WORD + word;
                 }
             }
             return NO_TOKEN;
         }
 
-        private boolean isWord(String letters) {
-            if (letters.length() != at - start) {
+        private boolean isWord(String letters, int start, int length) {
+            if (letters.length() != length) {
                 return false;
             }
             for (int k = 0; k < letters.length() && start + k < size; k++) {
@@ -755,8 +776,9 @@ public final class UntilHeConfesses {
         final Tape tape;
         int latestFault = NONE;
         int latestPlace = NONE;
+        private int token;
+        private int kind;
         private int wrong;
-        private int wrongPlace;
         private int clauses;
         private final int[] kinds = new int[CLAUSES];
         private final int[] firsts = new int[CLAUSES];
@@ -775,18 +797,19 @@ public final class UntilHeConfesses {
         /** The TEXT, or null, if it has a FAULT. */
         Text readTape() {
             startAnew();
-            tape.toFirstToken();
-            for (int k = 0; k <= CLAUSES && wrong == 0 && tape.kind != Tape.END; k++) {
+            for (int k = 0; k <= CLAUSES && wrong == 0 && kind != Tape.END; k++) {
                 readClause();
             }
             latestFault = wrong;
-            latestPlace = wrong == 0 ? NONE : wrongPlace;
-            return wrong == 0 ? makeText() : null;
+            if (wrong != 0) {
+                return null;
+            }
+            latestPlace = NONE;
+            return makeText();
         }
 
         private void startAnew() {
             wrong = 0;
-            wrongPlace = NONE;
             clauses = 0;
             codeSize = 0;
             inTotal = false;
@@ -794,6 +817,9 @@ public final class UntilHeConfesses {
                 lawFrom[law] = 0;
                 lawTill[law] = 0;
             }
+            tape.split();
+            token = -1;
+            goOn();
         }
 
         private Text makeText() {
@@ -807,15 +833,23 @@ public final class UntilHeConfesses {
             return made;
         }
 
+        /** To the next TOKEN; the end is not gone beyond. */
+        private void goOn() {
+            if (token + 1 < tape.tokens) {
+                token++;
+                kind = tape.kinds[token];
+            }
+        }
+
         private void fail(int what) {
-            if (wrong == 0) {
+            if (wrong == 0 && token >= 0 && token < tape.tokens) {
                 wrong = what;
-                wrongPlace = tape.start;
+                latestPlace = tape.starts[token];
             }
         }
 
         private void readClause() {
-            int word = tape.kind - Tape.WORD;
+            int word = kind - Tape.WORD;
             if (word < GUILT || word > Tape.NIGHT) {
                 fail(1);
             } else if (word <= PAYS && lawTill[word] > 0) {
@@ -824,9 +858,12 @@ public final class UntilHeConfesses {
                 fail(6);
             } else {
                 kinds[clauses] = word;
-                tape.toNextToken();
+                goOn();
                 if (word <= PAYS) {
-                    readLaw(word);
+                    lawRead = word;
+                    lawFrom[word] = codeSize;
+                    readSum(0);
+                    lawTill[word] = codeSize;
                 } else {
                     readDeed(word);
                 }
@@ -869,53 +906,50 @@ public final class UntilHeConfesses {
             if (wrong != 0) {
                 return 0;
             }
-            int number = tape.value;
-            if (tape.kind != Tape.NUMBER) {
+            int number = tape.values[token];
+            if (kind != Tape.NUMBER) {
                 fail(1);
             } else if (number < least || number > most) {
                 fail(2);
             } else {
-                tape.toNextToken();
+                goOn();
             }
             return number;
         }
 
-        private void pass(int kind) {
+        private void pass(int wanted) {
             if (wrong != 0) {
                 return;
             }
-            if (tape.kind != kind) {
+            if (kind != wanted) {
                 fail(1);
             } else {
-                tape.toNextToken();
+                goOn();
             }
         }
 
-        private void readLaw(int law) {
-            lawRead = law;
-            lawFrom[law] = codeSize;
-            readSum(0);
-            lawTill[law] = codeSize;
-        }
-
-        /** How many ( total and - are open goes along, as no more than 8 may be. */
+        /**
+         * A deed is put behind its right side: of * and / at once, of + and - when the PRODUCT
+         * there has ended. How many ( total and - are open goes along, as 8 at most may be.
+         */
         private void readSum(int open) {
-            readProduct(open);
-            for (int k = 0; k < Tape.ROOM && wrong == 0 && isSumMark(tape.kind); k++) {
-                int mark = tape.kind;
-                tape.toNextToken();
-                readProduct(open);
-                put(mark == Tape.PLUS ? Laws.ADD : Laws.LESS, 0);
-            }
-        }
-
-        private void readProduct(int open) {
-            readOne(open);
-            for (int k = 0; k < Tape.ROOM && wrong == 0 && isProductMark(tape.kind); k++) {
-                int mark = tape.kind;
-                tape.toNextToken();
+            int sumDeed = NONE;
+            int productDeed = NONE;
+            boolean more = true;
+            for (int k = 0; k < Tape.ROOM && wrong == 0 && more; k++) {
                 readOne(open);
-                put(mark == Tape.TIMES ? Laws.TIMES : Laws.BY, 0);
+                put(productDeed, 0);
+                productDeed = NONE;
+                if (kind == Tape.TIMES || kind == Tape.BY) {
+                    productDeed = kind == Tape.TIMES ? Laws.TIMES : Laws.BY;
+                } else {
+                    put(sumDeed, 0);
+                    more = kind == Tape.PLUS || kind == Tape.MINUS;
+                    sumDeed = kind == Tape.PLUS ? Laws.ADD : Laws.LESS;
+                }
+                if (more) {
+                    goOn();
+                }
             }
         }
 
@@ -923,7 +957,6 @@ public final class UntilHeConfesses {
             if (wrong != 0) {
                 return;
             }
-            int kind = tape.kind;
             if (kind == Tape.NUMBER) {
                 put(Laws.PUSH, readNumber(0, 9999));
             } else if (kind >= Tape.WORD + Tape.NIGHT && kind <= Tape.WORD + Tape.I) {
@@ -935,11 +968,11 @@ public final class UntilHeConfesses {
             } else if (kind == Tape.WORD + Tape.TOTAL) {
                 readTotal(open);
             } else if (kind == Tape.MINUS) {
-                tape.toNextToken();
+                goOn();
                 readOne(open + 1);
                 put(Laws.MINUS, 0);
             } else {
-                tape.toNextToken();
+                goOn();
                 readSum(open + 1);
                 pass(Tape.CLOSE);
             }
@@ -952,7 +985,7 @@ public final class UntilHeConfesses {
                 return;
             }
             put(Laws.NAME, word - Tape.NIGHT);
-            tape.toNextToken();
+            goOn();
         }
 
         private void readTotal(int open) {
@@ -961,7 +994,7 @@ public final class UntilHeConfesses {
                 return;
             }
             inTotal = true;
-            tape.toNextToken();
+            goOn();
             put(Laws.TOTAL, readNumber(1, 9));
             pass(Tape.WORD + Tape.OF);
             readOne(open + 1);
@@ -969,19 +1002,12 @@ public final class UntilHeConfesses {
             inTotal = false;
         }
 
+        /** NONE puts nothing. */
         private void put(int deed, int value) {
-            if (wrong == 0 && codeSize < code.length) {
+            if (wrong == 0 && deed != NONE && codeSize < code.length) {
                 code[codeSize] = deed * Laws.VALUES + value;
                 codeSize++;
             }
-        }
-
-        private static boolean isSumMark(int kind) {
-            return kind == Tape.PLUS || kind == Tape.MINUS;
-        }
-
-        private static boolean isProductMark(int kind) {
-            return kind == Tape.TIMES || kind == Tape.BY;
         }
     }
 
@@ -1444,11 +1470,12 @@ public final class UntilHeConfesses {
         static final int MOST = 1000000;
         /** Far above 300 deeds, 9 times each. */
         static final int DEEDS = 10000;
+        /** A sum, a product and a number for each of 9 levels, and more. */
+        static final int DEPTH = 40;
 
         private final House house;
         private final int[] names = new int[NAMES];
-        private final int[] stack = new int[40];
-        private int top;
+        private final int[] stack = new int[DEPTH];
 
         Laws(House house) {
             this.house = house;
@@ -1510,77 +1537,59 @@ public final class UntilHeConfesses {
         private int run(Text text, int law) {
             int[] code = text.code;
             int at = text.lawFrom[law];
-            int till = text.lawTill[law];
+            int till = Math.min(text.lawTill[law], code.length);
             int again = at;
             int times = 0;
             int together = 0;
-            top = 0;
-            for (int k = 0; k < DEEDS && at >= 0 && at < till && at < code.length; k++) {
+            int top = 0;
+            for (int k = 0; k < DEEDS && at >= 0 && at < till && top < DEPTH; k++) {
                 int deed = code[at] / VALUES;
                 int value = code[at] % VALUES;
                 at++;
                 if (deed == PUSH) {
-                    push(value);
+                    stack[top] = value;
+                    top++;
                 } else if (deed == NAME) {
-                    push(value < NAMES ? names[value] : 0);
+                    stack[top] = value < NAMES ? names[value] : 0;
+                    top++;
                 } else if (deed == TOTAL) {
                     again = at;
                     times = value;
                     together = 0;
                     names[I] = 0;
-                } else if (deed == AGAIN) {
-                    together = limited((long) together + pop());
+                } else if (deed == AGAIN && top >= 1) {
+                    together = counted(ADD, together, stack[top - 1]);
+                    stack[top - 1] = together;
                     names[I]++;
                     if (names[I] < times) {
+                        top--;
                         at = again;
-                    } else {
-                        push(together);
                     }
-                } else {
-                    count(deed);
+                } else if (deed == MINUS && top >= 1) {
+                    stack[top - 1] = -stack[top - 1];
+                } else if (top >= 2) {
+                    top--;
+                    stack[top - 1] = counted(deed, stack[top - 1], stack[top]);
                 }
             }
-            return pop();
+            return top > 0 ? stack[0] : 0;
         }
 
-        private void count(int deed) {
-            long right = pop();
-            if (deed == MINUS) {
-                push(limited(-right));
-                return;
-            }
-            long left = pop();
+        private static int counted(int deed, long left, long right) {
+            long value;
             if (deed == ADD) {
-                push(limited(left + right));
+                value = left + right;
             } else if (deed == LESS) {
-                push(limited(left - right));
+                value = left - right;
             } else if (deed == TIMES) {
-                push(limited(left * right));
+                value = left * right;
             } else {
-                push(right == 0 ? 0 : limited(left / right));
+                value = right == 0 ? 0 : left / right;
             }
-        }
-
-        private static int limited(long value) {
             if (value > MOST) {
                 return MOST;
             }
             return value < -MOST ? -MOST : (int) value;
-        }
-
-        private void push(int value) {
-            if (top >= 0 && top < stack.length) {
-                stack[top] = value;
-                top++;
-            }
-        }
-
-        private int pop() {
-            if (top <= 0 || top > stack.length) {
-                return 0;
-            }
-            top--;
-            return stack[top];
         }
     }
 
@@ -1636,13 +1645,17 @@ public final class UntilHeConfesses {
             return true;
         }
 
-        /** Answers how many signs there were, or NONE, if no NIGHT can pass. */
-        int nightByHand() {
-            if (stage.night >= LAST_NIGHT) {
-                return NONE;
+        /** Answers how many signs there were, or NONE, if just some of the NIGHTS could pass. */
+        int nightsByHand(int n) {
+            int shown = 0;
+            for (int k = 0; k < n; k++) {
+                if (stage.night >= LAST_NIGHT) {
+                    return NONE;
+                }
+                house.noteStep();
+                shown += giveNight();
             }
-            house.noteStep();
-            return giveNight();
+            return shown;
         }
 
         private int giveNight() {
@@ -1663,11 +1676,10 @@ public final class UntilHeConfesses {
         }
 
         private int giveScene(int scene, int times) {
-            if (times > 0) {
-                for (int s = 0; s < stage.suspects; s++) {
-                    if (stage.comes(s)) {
-                        chances[s] = laws.oddsNow(s, scene, stage.isGuilty(s));
-                    }
+            Text text = house.textOf(house.ruling);
+            for (int s = 0; s < stage.suspects && times > 0; s++) {
+                if (stage.comes(s)) {
+                    chances[s] = laws.oddsBy(text, s, scene, stage.isGuilty(s));
                 }
             }
             int shown = 0;
@@ -1683,20 +1695,14 @@ public final class UntilHeConfesses {
             return shown;
         }
 
-        /** NONE, if all is done; else the number of the CLAUSE that can't be. */
-        int playScript(Text script) {
-            for (int k = 0; k < script.kinds.length; k++) {
-                int kind = script.kinds[k];
-                boolean hasNumbers = k < script.firsts.length && k < script.seconds.length;
-                if (hasNumbers && !playClause(kind, script.firsts[k], script.seconds[k])) {
-                    return k;
-                }
+        /** False for a CLAUSE that can't be. */
+        boolean playClause(Text script, int k) {
+            if (k < 0 || k >= script.clauses) {
+                return false;
             }
-            return NONE;
-        }
-
-        private boolean playClause(int kind, int first, int second) {
-            switch (kind) {
+            int first = script.firsts[k];
+            int second = script.seconds[k];
+            switch (script.kinds[k]) {
                 case Tape.SUSPECT: return stage.tellSuspect(false, first, second) != NONE;
                 case Tape.MURDERER: return stage.tellSuspect(true, first, second) != NONE;
                 case Tape.SCENE: return stage.tellScene(first, second) != NONE;
@@ -1704,18 +1710,9 @@ public final class UntilHeConfesses {
                 case Tape.ENCORE: return encoreByHand(first);
                 case Tape.AWAY: return sendByHand(first);
                 case Tape.SEAT: return seatByHand(first, second);
-                case Tape.NIGHT: return playNights(first);
+                case Tape.NIGHT: return nightsByHand(first) != NONE;
                 default: return true;
             }
-        }
-
-        private boolean playNights(int n) {
-            for (int k = 0; k < n; k++) {
-                if (nightByHand() == NONE) {
-                    return false;
-                }
-            }
-            return true;
         }
 
         void drawSeasons(int seed, int n) {
