@@ -11,6 +11,7 @@ public final class PromisesTest {
         texts();
         faults();
         faultsOfNumbers();
+        fullTapes();
         laws();
         byHand();
         encoredAndCut();
@@ -312,6 +313,22 @@ public final class PromisesTest {
         fault("night 0;", 2, 6);
         fault("night 60; night 1;", 0, -1);
         fault("night 61;", 2, 6);
+    }
+
+    private static void fullTapes() {
+        of(7);
+        fault(";".repeat(300), 1, 0);
+        fault("guilt " + "1+".repeat(147), 1, 300);
+        fault("guilt " + "1+".repeat(146) + "1;", 0, -1);
+        fault("guilt 1" + "0".repeat(293), 2, 6);
+        fault("x".repeat(300), 1, 0);
+        fault(" ".repeat(300), 0, -1);
+        fault("guilt " + "(".repeat(8) + "1" + ")".repeat(8) + "+1".repeat(138) + ";", 0, -1);
+        fault("guilt " + "total 9 of 1+".repeat(22) + "1;", 0, -1);
+        of(21);
+        law("1+".repeat(140) + "1-134", 7);
+        law("total 9 of (" + "i+".repeat(130) + "i)/1000", 4);
+        law("0+1*(0+1*(0+1*(0+1*(0+1*(0+1*(0+1*(0+1*(2+1*3))))))))", 5);
     }
 
     private static void laws() {
