@@ -1,4 +1,4 @@
-/** An opera is given nightly till the murderer, who subscribes, stands up. README.md says how to use it. */
+/** An opera is given nightly till the murderer stands up; README.md says how to use it. */
 public final class UntilHeConfesses {
     public static final int NONE = -1;
 
@@ -600,6 +600,10 @@ public final class UntilHeConfesses {
         static final int SEAT = 9;
         /** NIGHT begins a CLAUSE and is the first NAME; I is the last. */
         static final int NIGHT = 10;
+        static final int NERVES = 11;
+        static final int HABIT = 12;
+        static final int ROW = 13;
+        static final int PLACE = 14;
         static final int HEAT = 15;
         static final int LENGTH = 16;
         static final int NUMBER_WORD = 17;
@@ -751,10 +755,10 @@ public final class UntilHeConfesses {
                 case AWAY: return "away";
                 case SEAT: return "seat";
                 case NIGHT: return "night";
-                case 11: return "nerves";
-                case 12: return "habit";
-                case 13: return "row";
-                case 14: return "place";
+                case NERVES: return "nerves";
+                case HABIT: return "habit";
+                case ROW: return "row";
+                case PLACE: return "place";
                 case HEAT: return "heat";
                 case LENGTH: return "length";
                 case NUMBER_WORD: return "number";
@@ -1465,8 +1469,9 @@ public final class UntilHeConfesses {
         static final int TOTAL = 7;
         static final int AGAIN = 8;
 
+        /** A NAME is kept as its word's number less that of NIGHT, the first one. */
         static final int NAMES = 9;
-        static final int I = 8;
+        static final int I = Tape.I - Tape.NIGHT;
         static final int MOST = 1000000;
         /** Far above 300 deeds, 9 times each. */
         static final int DEEDS = 10000;
@@ -1493,9 +1498,9 @@ public final class UntilHeConfesses {
             int law = guilt ? GUILT : GRIEF;
             if (text != null && text.hasLaw(law)) {
                 nameSuspect(suspect);
-                names[5] = stage.heats[scene];
-                names[6] = stage.lengths[scene];
-                names[7] = scene;
+                names[Tape.HEAT - Tape.NIGHT] = stage.heats[scene];
+                names[Tape.LENGTH - Tape.NIGHT] = stage.lengths[scene];
+                names[Tape.NUMBER_WORD - Tape.NIGHT] = scene;
                 return within(run(text, law), 0, 10);
             }
             return guilt ? within(stage.heats[scene] - stage.habits[suspect] / 2, 0, 10) : 1;
@@ -1528,10 +1533,10 @@ public final class UntilHeConfesses {
         private void nameSuspect(int suspect) {
             Stage stage = house.stage;
             names[0] = stage.night;
-            names[1] = stage.nerves[suspect];
-            names[2] = stage.habits[suspect];
-            names[3] = stage.seats[suspect] / 10;
-            names[4] = stage.seats[suspect] % 10;
+            names[Tape.NERVES - Tape.NIGHT] = stage.nerves[suspect];
+            names[Tape.HABIT - Tape.NIGHT] = stage.habits[suspect];
+            names[Tape.ROW - Tape.NIGHT] = stage.seats[suspect] / 10;
+            names[Tape.PLACE - Tape.NIGHT] = stage.seats[suspect] % 10;
         }
 
         private int run(Text text, int law) {
@@ -1791,9 +1796,8 @@ public final class UntilHeConfesses {
         int nightsToSign(int suspect) {
             stage.saveTo(rowAhead);
             int nights = NONE;
-            for (int k = 1; k <= NIGHTS_AT_ONCE && nights == NONE && stage.night < LAST_NIGHT; k++) {
-                giveNight();
-                if (hasBit(shownBy, suspect)) {
+            for (int k = 1; k <= NIGHTS_AT_ONCE && nights == NONE; k++) {
+                if (rehearse(1) > 0 && hasBit(shownBy, suspect)) {
                     nights = k;
                 }
             }
