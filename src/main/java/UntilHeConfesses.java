@@ -334,10 +334,13 @@ public final class UntilHeConfesses {
         if (!isSet(suspects, house.stage.suspects) || countBits(suspects) > 5) {
             return OTHER;
         }
-        if (suspect != NONE && !house.stage.hasSuspect(suspect)) {
+        if (suspect == NONE) {
+            return witnesses.pairsOfBestSeating(suspects);
+        }
+        if (!house.stage.hasSuspect(suspect) || !hasBit(suspects, suspect)) {
             return OTHER;
         }
-        return witnesses.bestSeating(suspects, suspect);
+        return witnesses.seatInBestSeating(suspects, suspect);
     }
 
     public int lonely() {
@@ -2148,8 +2151,13 @@ public final class UntilHeConfesses {
             return faced ? most : best;
         }
 
-        /** How many (suspect NONE), or the SEAT of a SUSPECT. */
-        int bestSeating(int suspects, int suspect) {
+        int seatInBestSeating(int suspects, int suspect) {
+            pairsOfBestSeating(suspects);
+            return suspect >= 0 && suspect < SUSPECTS ? kept[suspect] : OTHER;
+        }
+
+        /** Leaves the seating in kept. */
+        int pairsOfBestSeating(int suspects) {
             int moved = membersOf(suspects, members);
             sortPlaces(moved);
             copyRow(stage.seats, trial);
@@ -2166,10 +2174,7 @@ public final class UntilHeConfesses {
                 }
                 more = nextOrder(row, moved);
             }
-            if (suspect == NONE) {
-                return most;
-            }
-            return suspect >= 0 && suspect < SUSPECTS ? kept[suspect] : OTHER;
+            return most;
         }
 
         /** The lowest SEATS first, so that of like seatings the one asked for comes first. */

@@ -1053,7 +1053,7 @@ public final class OracleTest {
 
         int seating(int set, int s) {
             List<Integer> of = members(set);
-            if (of.isEmpty() || of.size() > 5 || !of.stream().allMatch(this::has) || s != -1 && !has(s)) {
+            if (of.isEmpty() || of.size() > 5 || !of.stream().allMatch(this::has) || s != -1 && !of.contains(s)) {
                 return -2;
             }
             List<Integer> seats = new ArrayList<>();

@@ -1313,7 +1313,12 @@ public final class PromisesTest {
         due("how many", x.seating(15, -1), 2);
         due("0 and 1 change", x.seating(3, 0), 0);
         due("0 and 1 change", x.seating(3, 1), 35);
-        due("others as they are", x.seating(3, 2), 25);
+        due("one of the others", x.seating(3, 2), -2);
+        due("one of the others, above the set", x.seating(3, 3), -2);
+        due("one of the others, below the set", x.seating(12, 0), -2);
+        due("between two of the set", x.seating(5, 1), -2);
+        due("another's set of one", x.seating(2, 0), -2);
+        due("its own set of one", x.seating(2, 1), 0);
         due("nothing is changed", x.ofSuspect(0, 2), 35);
         due("none", x.seating(0, -1), -2);
         due("not told", x.seating(16, -1), -2);
