@@ -168,6 +168,7 @@ public final class PromisesTest {
         due("end(301)", x.end(301), -1);
         due("end(-1)", x.end(-1), -1);
         due("as it was", x.about(9), 300);
+        due("end(300)", x.end(300), 300);
         due("end(281)", x.end(281), 281);
         due("no room for 20", x.feed(1, 2, 3, 4, 5), -1);
         due("end(280)", x.end(280), 280);
@@ -185,6 +186,7 @@ public final class PromisesTest {
         due("other", x.fault(-1), -1);
         of(6);
         due("an empty text", x.text(), 0);
+        due("the next is not told yet", x.by(1), false);
         due("blanks alone", read(x, " \n "), 1);
         due("clauses", read(x, "cut 0;cut 1;"), 2);
         due("bytes of the highest first", read(x, "encore 5;"), 3);
@@ -246,6 +248,10 @@ public final class PromisesTest {
         fault("guilt 1);", 1, 7);
         fault("guilt 1+;", 1, 8);
         fault("guilt *1;", 1, 6);
+        fault("guilt /1;", 1, 6);
+        fault("guilt 6(2);", 1, 7);
+        fault("guilt (1;);", 1, 8);
+        fault("guilt (1(;", 1, 8);
         fault("guilt guilt;", 1, 6);
         fault("guilt on;", 1, 6);
         fault("guilt of;", 1, 6);
@@ -317,7 +323,8 @@ public final class PromisesTest {
         fault("cut 7;", 2, 4);
         fault("encore 7;", 2, 7);
         fault("away 6;", 2, 5);
-        fault("seat 5 on 39;", 0, -1);
+        fault("seat 5 on 39; seat 0 on 0;", 0, -1);
+        fault("away 0; cut 0; encore 0;", 0, -1);
         fault("seat 6 on 0;", 2, 5);
         fault("seat 0 on 40;", 2, 10);
         fault("night 0;", 2, 6);
@@ -522,12 +529,20 @@ public final class PromisesTest {
         due("habit", x.habit(60, 0), 9);
         of(30);
         due("none", x.firstSign(0), -1);
+        of(29);
+        due("habit stays", x.ofSuspect(0, 3), 9);
         of(15);
         due("none can pass", x.seasons(1, 30), 9999);
         of(16);
         due("undo", x.undo(), 29);
         due("undo", x.undo(), 28);
         due("a night back", x.is(0), 9998);
+        read(x, "grief 10;");
+        x.cut(0);
+        x.by(2);
+        due("a sign in the last night", x.night(1), 1);
+        of(30);
+        due("none behind it", x.firstSign(0), -1);
         // six who pay 999 each: 99999999 is come to in the 16684th night, so no house takes more
         of(19);
         UntilHeConfesses y = new UntilHeConfesses();
@@ -579,6 +594,11 @@ public final class PromisesTest {
         due("no such one", y.played(2), 0);
         read(y, "scene 1 for 1;scene 1 for 1;scene 1 for 1;scene 1 for 1;scene 1 for 1;");
         due("the 8th", y.played(3), 4);
+        UntilHeConfesses z = house();
+        read(z, "murderer 1 on 39; murderer 1 on 5;");
+        due("5 isn't free", z.played(0), 1);
+        due("guilty", z.ofSuspect(3, 0), 1);
+        due("39 isn't free any more", z.played(0), 0);
     }
 
     private static void seasons() {
@@ -642,6 +662,7 @@ public final class PromisesTest {
         due("taken back", y.undo(), 0);
         due("all as ahead", y.is(2), 113);
         due("nothing cut", y.ofScene(0, 2) + y.ofScene(1, 2) + y.ofScene(2, 2), 0);
+        ofOne();
         UntilHeConfesses z = new UntilHeConfesses();
         int passed = z.seasons(7, 30);
         int w = 127;
@@ -652,6 +673,46 @@ public final class PromisesTest {
         }
         due("an empty house", passed, due);
         due("its X", z.is(2), w);
+    }
+
+    /** SEASONS of one SCENE and one SUSPECT, who shows no sign whatever is drawn. */
+    private static void ofOne() {
+        for (int seed = 0; seed < 40; seed++) {
+            UntilHeConfesses x = new UntilHeConfesses();
+            x.suspect(true, 0, 0);
+            x.scene(5, 1);
+            read(x, "guilt 0;");
+            x.by(0);
+            due("seasons", x.seasons(seed, 30) >= 0, true);
+            int v = seed * 2 + 113;
+            int seat = 0;
+            int habit = 0;
+            boolean cut = false;
+            boolean encored = false;
+            boolean comes = true;
+            for (int k = 0; k < 30; k++) {
+                int drawn = v;
+                v = (v * 347 + 229) % 30403;
+                cut ^= drawn % 6 == 0;
+                encored |= drawn % 6 == 1 && !cut;
+                comes ^= drawn % 6 == 2;
+                seat = drawn % 6 == 3 ? drawn % 40 : seat;
+                if (drawn % 6 > 3) {
+                    for (int i = cut || !comes ? 0 : encored ? 2 : 1; i > 0; i--) {
+                        v = (v * 347 + 229) % 30403;
+                    }
+                    habit = Math.min(9, habit + (comes ? 1 : 0));
+                    encored = false;
+                }
+            }
+            due("X of seed " + seed, x.is(2), v);
+            due("cut by seed " + seed, x.ofScene(0, 2) == 1, cut);
+            due("encored by seed " + seed, x.ofScene(0, 3) == 1, encored);
+            due("comes by seed " + seed, x.ofSuspect(0, 4) == 1, comes);
+            due("habit by seed " + seed, x.ofSuspect(0, 3), habit);
+            due("seat by seed " + seed, x.ofSuspect(0, 2), seat);
+            due("no signs", x.book(-1, 0), 0);
+        }
     }
 
     private static void stepsTakenBack() {
@@ -771,6 +832,11 @@ public final class PromisesTest {
         due("comes", x.ofSuspect(1, 4), 1);
         due("pays 10 less row", x.ofSuspect(1, 5), 7);
         due("pays 10 less row", x.ofSuspect(0, 5), 10);
+        x.seat(1, 30);
+        due("the first of row 3", x.ofSuspect(1, 5), 7);
+        x.seat(1, 29);
+        due("the last of row 2", x.ofSuspect(1, 5), 8);
+        x.seat(1, 39);
         due("what 6", x.ofSuspect(0, 6), -1);
         due("what -1", x.ofSuspect(0, -1), -1);
         due("nobody", x.ofSuspect(3, 0), -1);
@@ -863,6 +929,14 @@ public final class PromisesTest {
         due("the book ahead", x.book(-1, 0), 40);
         of(20);
         due("the eldest then", x.book(0, 0), 0);
+        due("its scene", x.book(1, 1), 0);
+        due("its suspect", x.book(1, 2), 1);
+        due("the latest then", x.book(39, 0), 9);
+        x.undo();
+        due("36 again", x.book(-1, 0), 36);
+        due("the latest then", x.book(35, 0), 8);
+        x.night(1);
+        due("40 again", x.book(-1, 0), 40);
         of(28);
         due("more than the book holds", x.foretold(60, 0), 240);
         due("nothing is changed", x.book(0, 0), 0);
@@ -955,6 +1029,8 @@ public final class PromisesTest {
         of(27);
         due("0", x.both(0, 1, false), 0);
         due("by 1", x.both(0, 1, true), 1);
+        of(26);
+        due("of like ones the lowest", house().guess(), 0);
         of(23);
         for (int k = 2; k <= 8; k++) {
             due("more", x.observe(0, 0, true), k);
@@ -1020,6 +1096,9 @@ public final class PromisesTest {
         due("nobody", x.habit(1, -1), -1);
         x.away(1);
         due("stays away", x.habit(10, 1), 0);
+        due("n 1", x.habit(1, 0), 1);
+        due("nothing is changed", x.ofSuspect(0, 3), 0);
+        due("no night", x.is(0), 0);
         of(30);
         due("stays away", x.firstSign(1), -1);
         due("the first", x.firstSign(0), 1);
@@ -1065,6 +1144,10 @@ public final class PromisesTest {
         x.scene(0, 1);
         x.scene(0, 1);
         due("0 at least", x.order(0, 48, -1), 0);
+        read(x, "guilt 1;");
+        x.by(0);
+        due("1 less is 0", x.order(0, 48, -1), 1);
+        x.by(-1);
         due("lowest first", x.order(0, 48, 0), 4);
         due("five", x.order(0, 31, -1) >= 22, true);
         due("six", x.order(0, 63, -1), -2);
@@ -1131,6 +1214,7 @@ public final class PromisesTest {
         of(33);
         due("night 8", x.risk(8, 10), true);
         due("night 0", x.risk(0, 10), true);
+        due("odds 0", x.risk(4, 0), true);
         of(34);
         due("both nights", x.staysAway(9, 1, 9999, 0), 257);
         due("two", x.staysAway(9, 1, 9999, 1), 2);
@@ -1175,6 +1259,7 @@ public final class PromisesTest {
         due("truth alone", x.toRun(3, 3, 1, 10, 0), 9);
         due("takings of exactly 0", x.toRun(8, 4, 0, 9, 0), 2);
         due("most of all", x.toRun(9999, 0, 0, 0, 1), 89991);
+        due("least of all", x.toRun(9999, 999, 0, 0, 1), 9 * 9999 - 36 * 999);
         due("t -1", x.toRun(-1, 0, 0, 0, 0), -1);
         due("t 10000", x.toRun(10000, 0, 0, 0, 0), -1);
         due("d -1", x.toRun(0, -1, 0, 0, 0), -1);
@@ -1196,6 +1281,7 @@ public final class PromisesTest {
         due("4", x.cuts(4), 1);
         due("2", x.cuts(2), 2);
         due("1", x.cuts(1), 0);
+        due("0", x.cuts(0), 0);
         due("99", x.cuts(99), 7);
         due("-1", x.cuts(-1), -1);
         due("100", x.cuts(100), -1);
@@ -1209,6 +1295,8 @@ public final class PromisesTest {
         due("no scenes", y.cuts(9), 0);
         y.scene(0, 1);
         due("of no heat", y.cuts(9), 0);
+        y.scene(1, 1);
+        due("of heat 1", y.cuts(9), 2);
         of(37);
         due("without the cut one", x.lasts(), 13);
         x.encore(1);
@@ -1374,7 +1462,7 @@ public final class PromisesTest {
         due("none any more", x.torn(-1, -1, false), 0);
         of(46);
         due("all", x.sittings(false), 24);
-        x.suspect(false, 0, 1);
+        x.suspect(false, 0, 9);
         due("five", x.sittings(false), 120);
         x.torn(4, 0, true);
         due("two seats of row 0", x.sittings(false), 48);
@@ -1584,6 +1672,28 @@ public final class PromisesTest {
         due("a new suspect on a seat", x.suspect(false, 0, 39), 3);
         due("not guilty", x.ofSuspect(3, 0), 0);
         UntilHeConfesses y = house();
+        y.night(3);
+        y.feed(1, 2, 3, 4, 5);
+        of(57);
+        int signs = y.book(-1, 0);
+        int scene = y.book(signs - 1, 1);
+        y.image();
+        y.undo();
+        y.undo();
+        y.cut(1);
+        y.seasons(3, 30);
+        due("NIGHT", y.back(), 3);
+        due("the book", y.book(-1, 0), signs);
+        due("its latest scene", y.book(signs - 1, 1), scene);
+        due("its latest night", y.book(signs - 1, 0), 2);
+        due("a night back", y.undo(), 2);
+        due("NIGHT", y.is(0), 2);
+        due("habit", y.ofSuspect(0, 3), 2);
+        due("not cut", y.ofScene(1, 2), 0);
+        due("another back", y.undo(), 1);
+        due("the first back", y.undo(), 0);
+        due("the book", y.book(-1, 0), 0);
+        y = house();
         y.night(3);
         y.feed(1, 2, 3, 4, 5);
         due("the first image", y.back(), 0);
