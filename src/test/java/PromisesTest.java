@@ -344,6 +344,15 @@ public final class PromisesTest {
         fault("guilt " + "total 9 of 1+".repeat(22) + "1;", 0, -1);
         of(21);
         law("1+".repeat(140) + "1-134", 7);
+        UntilHeConfesses x = house();
+        for (int k = 0; k < 20; k++) {
+            due("a full tape with a fault at its end", read(x, "guilt " + "1+".repeat(147)), -1);
+            due("1 + 9 of i, and no end", read(x, "guilt 1 + total 9 of i"), -1);
+        }
+        due("one without a fault", read(x, "grief 4; guilt 1+total 4 of i;"), 0);
+        x.by(0);
+        due("nothing is left of those", x.odds(0, 0, true), 7);
+        due("nothing is left of those", x.odds(0, 0, false), 4);
         law("total 9 of (" + "i+".repeat(130) + "i)/1000", 4);
         law("0+1*(0+1*(0+1*(0+1*(0+1*(0+1*(0+1*(0+1*(2+1*3))))))))", 5);
     }
