@@ -5,7 +5,7 @@ import java.util.List;
 /**
  * Each sentence of the document that names a bound (too small, too large, empty, full, a wrap-around, a refused
  * call), in the document's order, with a test of its own. A refused call must leave all as it was: that is seen by
- * two houses of like making, one with the call and one without, whose every answer is compared.
+ * two houses of like making, one with the call and one without, compared by views of all that a house holds.
  */
 public final class BoundariesTest {
     private interface House {
