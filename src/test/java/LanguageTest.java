@@ -5,9 +5,12 @@ import java.lang.reflect.Modifier;
 import java.nio.charset.StandardCharsets;
 import java.nio.file.Files;
 import java.nio.file.Path;
+import java.util.ArrayList;
 import java.util.Arrays;
 import java.util.List;
+import java.util.Map;
 import java.util.Set;
+import java.util.TreeMap;
 import java.util.TreeSet;
 import java.util.regex.Matcher;
 import java.util.regex.Pattern;
@@ -103,6 +106,41 @@ public final class LanguageTest {
         }
         broken(Pattern.compile("\\+ *\"|\" *\\+").matcher(bare).find(), "rule 10: texts joined by +");
         methods(text.split("\n"));
+        depth(bare);
+    }
+
+    /** By names alone; a name that stands on the way already is recursion, and not gone into again. */
+    private static void depth(String bare) {
+        Map<String, String> bodies = new TreeMap<>();
+        Pattern head = Pattern.compile("(?m)^( {4}| {8})(?:(?:public|private|static) )*[\\w\\[\\]]+ (\\w+)\\([^()]*\\) \\{\n((?s:.*?))^\\1\\}");
+        Matcher m = head.matcher(bare.replaceAll("(?m)^ +(public )?static final .*;\n", ""));
+        while (m.find()) {
+            bodies.merge(m.group(2), m.group(3), String::concat);
+        }
+        broken(bodies.size() < 150, "rule 11: only " + bodies.size() + " methods were found");
+        Map<String, Set<String>> calls = new TreeMap<>();
+        bodies.forEach((name, body) -> {
+            Set<String> found = new TreeSet<>();
+            Pattern.compile("\\b(\\w+)\\(").matcher(body).results().map(r -> r.group(1)).filter(bodies::containsKey).forEach(found::add);
+            calls.put(name, found);
+        });
+        for (String name : bodies.keySet()) {
+            longest(calls, new ArrayList<>(List.of(name)));
+        }
+    }
+
+    private static void longest(Map<String, Set<String>> calls, List<String> way) {
+        if (way.size() > 8) {
+            broken(true, "rule 11: calls too deep " + way);
+            return;
+        }
+        for (String next : calls.get(way.get(way.size() - 1))) {
+            if (!way.contains(next)) {
+                way.add(next);
+                longest(calls, way);
+                way.remove(way.size() - 1);
+            }
+        }
     }
 
     private static void methods(String[] lines) {

@@ -42,9 +42,12 @@ public final class OracleTest {
 
         int go() {
             int calls = 0;
-            while (calls < 500 && !differs) {
-                if (random.nextInt(12) == 0) {
+            while (calls < 480 && !differs) {
+                int sort = random.nextInt(36);
+                if (sort < 3) {
                     calls += feedText();
+                } else if (sort == 3 && run % 3 == 0) {
+                    calls += seatTwo();
                 } else {
                     call(pick());
                     calls++;
@@ -94,6 +97,30 @@ public final class OracleTest {
             check("fault(1)", fast.fault(1), slow.fault(1));
             check("about(9)", fast.about(9), slow.about(9));
             return n + 5;
+        }
+
+        /** One leaves a seat, another is told on it, the steps are taken back: two are on it, when it is asked about. */
+        int seatTwo() {
+            int[] asked = {10, 40, 42, 44, 45, 51, 51};
+            int p = person();
+            int left = slow.has(p) ? slow.now.people.get(p).seat : up(39);
+            int to = up(39);
+            check("seat(" + p + "," + to + ")", b(fast.seat(p, to)), b(slow.seat(p, to)));
+            check("suspect(false,5," + left + ")", fast.suspect(false, 5, left), slow.suspect(false, 5, left));
+            int calls = 2;
+            for (int k = 1 + random.nextInt(3); k > 0; k--) {
+                check("undo()", fast.undo(), slow.undo());
+                calls++;
+            }
+            for (int k = 0; k < 12; k++) {
+                call(asked[random.nextInt(asked.length)]);
+                calls++;
+            }
+            for (int row = 0; row < 4; row++) {
+                check("empty(" + row + ")", fast.empty(row), slow.empty(row));
+                calls++;
+            }
+            return calls;
         }
 
         void check(String call, long got, long want) {

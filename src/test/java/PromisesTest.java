@@ -808,6 +808,16 @@ public final class PromisesTest {
         due("nobody is lonely", x.lonely(), 0);
         of(52);
         due("one seat for both", x.empty(0), 8);
+        x.away(0);
+        due("the other one comes", x.empty(0), 8);
+        x.away(2);
+        due("both stay away", x.empty(0), 9);
+        x.away(0);
+        due("the first one comes", x.empty(0), 8);
+        x.undo();
+        x.undo();
+        x.undo();
+        due("both come", x.empty(0), 8);
         of(43);
         due("own seat is the lowest of 1", x.bestSeat(1, true), 2);
         due("5 is taken, 3 faces both of 5", x.bestSeat(1, false), 3);
@@ -820,6 +830,7 @@ public final class PromisesTest {
         of(46);
         due("one told twice counts for two", x.sittings(false), 6);
         due("all on row 0, nobody sure", x.sittings(true), 0);
+        oneOfTwoElsewhere();
         of(12);
         due("not free", x.seat(1, 5), false);
         due("its own", x.seat(2, 5), false);
@@ -828,6 +839,22 @@ public final class PromisesTest {
         due("two again", x.ofSuspect(2, 2), 5);
         of(2);
         due("not free", x.suspect(false, 0, 5), -1);
+    }
+
+    /** Who sits on row 0 of a seat of two there and one on row 3 is on the same seat, whichever of the two it is. */
+    private static void oneOfTwoElsewhere() {
+        UntilHeConfesses x = new UntilHeConfesses();
+        x.suspect(true, 0, 5);
+        x.suspect(false, 0, 35);
+        x.seat(0, 20);
+        x.suspect(false, 0, 5);
+        x.undo();
+        x.torn(0, 0, true);
+        due("0 on one of two, then two ways each", x.sittings(false), 4);
+        due("0 alone is sure", x.sittings(true), 1);
+        x.torn(1, 3, false);
+        due("0 and 1 on the two", x.sittings(false), 2);
+        due("all are sure", x.sittings(true), 7);
     }
 
     private static void ofAll() {
@@ -1063,6 +1090,9 @@ public final class PromisesTest {
         due("all alike", y.tellsMost(), 0);
         y.weight(1, 2);
         due("by weights", y.tellsMost(), 1);
+        y.weight(0, 0);
+        y.weight(1, 0);
+        due("nothing tells, so all are like", y.tellsMost(), 0);
         of(27);
         UntilHeConfesses z = house();
         z.observe(0, 2, true);
